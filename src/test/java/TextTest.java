@@ -1,0 +1,283 @@
+/** Promises 1 to 5: a new object, the tape, the text, its faults, names. */
+public final class TextTest {
+    private static final Check CHECK = new Check("TextTest");
+
+    private static String times(String s, int n) {
+        return s.repeat(n);
+    }
+
+    private static void newObject() {
+        WaxBowl x = new WaxBowl();
+        for (int what = 0; what <= 12; what++) {
+            CHECK.due("new: count(" + what + ")", x.count(what), 0);
+        }
+        CHECK.due("new: fault(0)", x.fault(0), 0);
+        CHECK.due("new: fault(1)", x.fault(1), WaxBowl.NONE);
+        CHECK.due("new: text(1)", x.text(1), -2);
+        CHECK.due("new: text(0)", x.text(0), 0);
+        CHECK.due("NONE", WaxBowl.NONE, -1);
+    }
+
+    private static void feeding() {
+        WaxBowl x = new WaxBowl();
+        for (int i = 1; i <= 35; i++) {
+            CHECK.due("feed " + i, x.feed(0x20202020, 0x20202020, 0x20202020, 0x20202020, 0x20202020), 20 * i);
+        }
+        CHECK.due("feed beyond 700", x.feed(0, 0, 0, 0, 0), WaxBowl.NONE);
+        CHECK.due("text of 701", x.text(701), -2);
+        CHECK.due("text of 700 blanks", x.text(700), 0);
+        CHECK.due("feed behind text", x.feed(0x6e656172, 0x20353b20, 0x20202020, 0x20202020, 0x20202020), 20);
+        CHECK.due("near 5; highest byte first", x.text(8), 1);
+        CHECK.due("a byte of 255", x.feed(-1, 0, 0, 0, 0), 20);
+        CHECK.due("it is none", x.text(1), -1);
+        CHECK.due("its fault", x.fault(0), 1);
+        CHECK.due("its place", x.fault(1), 0);
+        CHECK.due("all five", x.feed(0x6e656172, 0x0a352020, 0x3b636f6c, 0x64202020, 0x3939203b), 20);
+        CHECK.due("near and cold", x.text(20), 2);
+        CHECK.due("warm of cold 99", x.warm(1, 0), 1);
+    }
+
+    private static void textKeepsOrBegins() {
+        WaxBowl x = CHECK.told("guest a 9 8 7;guest b 1 2 3;fruit p 1 0;law dare 1 + 1;bite a 3;");
+        CHECK.due("seat", x.seat(0, 1), true);
+        CHECK.due("go", x.go(3), 3);
+        CHECK.due("seat again", x.seat(0, 1), true);
+        CHECK.due("see", x.see(1, 0, 1, true), 0);
+        CHECK.due("known", x.known(0), true);
+        CHECK.due("keep", x.keep(), 3);
+        Check.feedAll(x, "near 1;near 2;");
+        CHECK.due("text(-1)", x.text(-1), -2);
+        CHECK.due("text(21)", x.text(21), -2);
+        CHECK.due("the fault stays of an earlier one", x.fault(0), 0);
+        CHECK.due("the tape stayed", x.text(14), WaxBowl.NONE);
+        CHECK.due("fault", x.fault(0), 3);
+        CHECK.due("place", x.fault(1), 7);
+        CHECK.due("no such what", x.fault(2), WaxBowl.NONE);
+        CHECK.due("no such what", x.fault(-1), WaxBowl.NONE);
+        CHECK.due("the tape is empty", x.text(1), -2);
+        CHECK.due("the fault stays with -2", x.fault(0), 3);
+        int[] stays = {2, 1, 1, 3, 3, 2, 3, 0, 0, x.count(9), 1, 0, 1};
+        for (int what = 0; what <= 12; what++) {
+            CHECK.due("all stays: count(" + what + ")", x.count(what), stays[what]);
+        }
+        CHECK.due("undo stays", x.undo(), 0);
+        CHECK.due("the image stays", x.back(), 3);
+        CHECK.due("seat once more", x.seat(0, 1), true);
+        Check.feedAll(x, "guest c 1 2 3;guest d 4 5 6;guest e 1 1 1;");
+        CHECK.due("the first n bytes alone", x.text(28), 2);
+        CHECK.due("no fault", x.fault(0), 0);
+        CHECK.due("no place", x.fault(1), WaxBowl.NONE);
+        CHECK.due("the rest is gone", x.text(1), -2);
+        int[] begun = {2, 0, 0, 0, 0, 2, 0, 0, 0, 7, 0, 0, 0};
+        for (int what = 0; what <= 12; what++) {
+            CHECK.due("begun: count(" + what + ")", x.count(what), begun[what]);
+        }
+        CHECK.due("no image", x.back(), WaxBowl.NONE);
+        CHECK.due("nothing to undo", x.undo(), WaxBowl.NONE);
+        CHECK.due("seats by numbers", x.guest(0, 3), 0);
+        CHECK.due("nobody bit", x.guest(0, 6), 0);
+        CHECK.due("see", x.see(1, 0, 1, true), 0);
+        CHECK.due("all are known again", x.count(11), 1);
+        CHECK.due("near, cold, laws are those of the new text", x.warm(1, 1), 1);
+    }
+
+    private static void textBeginsAnew() {
+        WaxBowl x = CHECK.told("guest a 5 60 1;fruit p 1 1;cold 100;near 5;law praise 7;seed 9;");
+        x.go(30);
+        CHECK.due("eaten", x.fruit(0, 2), 1);
+        CHECK.due("fainted", x.go(200), 230);
+        CHECK.due("nobody is there", x.count(5), 0);
+        CHECK.due("told", Check.tell(x, "guest a 5 6 1;guest b 99 20 1;guest c 99 20 1;guest d 99 20 1;fruit p 1 1;"), 5);
+        CHECK.due("all there", x.count(5), 4);
+        CHECK.due("no marks", x.fruit(0, 3), 0);
+        CHECK.due("nothing eaten", x.fruit(0, 2), 0);
+        CHECK.due("nothing fed", x.fruit(0, 4), 0);
+        CHECK.due("step 0", x.count(4), 0);
+        CHECK.due("no law", x.law(0, 0, 0), Long.MIN_VALUE);
+        CHECK.due("near is 1 without", x.guest(0, 5), 0b1010);
+        CHECK.due("cold is 0 without", x.warm(6, 0), 1);
+    }
+
+    private static void fault(String text, int kind, int place) {
+        WaxBowl x = new WaxBowl();
+        CHECK.due("text " + text, Check.tell(x, text), WaxBowl.NONE);
+        CHECK.due("fault of " + text, x.fault(0), kind);
+        CHECK.due("place of " + text, x.fault(1), place);
+        CHECK.due("guests behind " + text, x.count(0), 0);
+    }
+
+    private static void fine(String text, int lines) {
+        WaxBowl x = new WaxBowl();
+        CHECK.due("text " + text, Check.tell(x, text), lines);
+        CHECK.due("fault of " + text, x.fault(0), 0);
+        CHECK.due("place of " + text, x.fault(1), WaxBowl.NONE);
+    }
+
+    private static void wrongTokens() {
+        fault("Guest a 1 1 1;", 1, 0);
+        fault("guests a 1 1 1;", 1, 0);
+        fault("guest abcdefg 1 1 1;", 1, 6);
+        fine("guest abcdef 1 1 1;", 1);
+        for (String word : "guest fruit bite near cold seed law praise dare shock or and not manner hunger wit sweet marks there step"
+                .split(" ")) {
+            fault("guest " + word + " 1 1 1;", 1, 6);
+        }
+        fault("guest a 1 1;", 1, 11);
+        fault("guest a 1 1 1", 1, 13);
+        fault("guest a 1 1 1  ", 1, 15);
+        fault("guest a 1 1 1 1;", 1, 14);
+        fault("guest 1 1 1 1;", 1, 6);
+        fault("guest a b 1 1;", 1, 8);
+        fault(";", 1, 0);
+        fault("near 1;;", 1, 7);
+        fault("near 1 near 1;", 1, 7);
+        fault("near\t1;", 1, 4);
+        fine("\n near\n1\n;\n ", 1);
+        fine("near1;guest a1 1 01;cold 0000000000000000050;", 3);
+        fault("a", 1, 0);
+        fault("1;", 1, 0);
+        fault("near 1!;", 1, 6);
+        fault("near (;", 1, 5);
+        fault("bite 1 1;", 1, 5);
+        fault("bite", 1, 4);
+        fault("law bite 1;", 1, 4);
+        fault("law", 1, 3);
+        fault("law dare", 1, 8);
+        fault("law dare 1", 1, 10);
+        fault("fruit p 1;", 1, 9);
+    }
+
+    private static void wrongExpressions() {
+        fault("law dare 1 < = 2;", 1, 13);
+        fault("law dare 1 => 2;", 1, 12);
+        fault("law dare 1 >< 2;", 1, 12);
+        fault("law dare 1 == 2;", 1, 12);
+        fine("law dare 1 <= 2;law praise 1 >= 2;law shock 1 <> 2;", 3);
+        fine("law dare 1<2;law praise 1>2;law shock 1=2;", 3);
+        fault("law dare 1 < 2 < 3;", 1, 15);
+        fault("law dare 1 = 2 + 3 = 3;", 1, 19);
+        fine("law dare (1 < 2) < 3;", 1);
+        fine("law dare 1 < 2 and 2 < 3 or 3 < 4;", 1);
+        fault("law dare 1 = not 1;", 1, 13);
+        fault("law dare 1 + not 1;", 1, 13);
+        fault("law dare 1 * not 1;", 1, 13);
+        fine("law dare (not 1) + 1;law shock 1 and not not 1 or not (not 1);", 2);
+        fault("law dare 1 not 1;", 1, 11);
+        fault("law dare ();", 1, 10);
+        fault("law dare (1;", 1, 11);
+        fault("law dare (1", 1, 11);
+        fault("law dare 1);", 1, 10);
+        fault("law dare 1 2;", 1, 11);
+        fault("law dare 1 (2);", 1, 11);
+        fault("law dare -1;", 1, 9);
+        fault("law dare + 1;", 1, 9);
+        fault("law dare 1 +;", 1, 12);
+        fault("law dare 1 and or 1;", 1, 15);
+        fault("law dare x;", 1, 9);
+        fault("law dare cold;", 1, 9);
+        fault("law dare manners;", 1, 9);
+        fine("law dare manner+hunger-wit*sweet/marks<there=(step);".replace("=", "-"), 1);
+    }
+
+    private static void tooMuch() {
+        fault("guest a 100 1 1;", 2, 8);
+        fault("guest a 99 99 1;", 2, 11);
+        fault("guest a 99 98 10;", 2, 14);
+        fine("guest a 99 98 9;guest b 0 0 0;", 2);
+        fault("fruit a 10 0;", 2, 8);
+        fault("fruit a 9 2;", 2, 10);
+        fine("fruit a 9 1;fruit b 0 0;", 2);
+        fault("guest a 1 1 1;bite a 100;", 2, 21);
+        fine("guest a 1 1 1;bite a 99;bite a 0;", 3);
+        fault("near 0;", 2, 5);
+        fault("near 6;", 2, 5);
+        fine("near 5;cold 100;seed 99999;", 3);
+        fault("cold 101;", 2, 5);
+        fault("seed 100000;", 2, 5);
+        fault("seed 99999999999999999999999999;", 2, 5);
+        fault("seed 4294967296;", 2, 5);
+        fault("law dare 10000;", 2, 9);
+        fault("law dare 1 + 18446744073709551617;", 2, 13);
+        fine("law dare 9999;", 1);
+        String guests = "guest a 1 1 1;guest b 1 1 1;guest c 1 1 1;guest d 1 1 1;guest e 1 1 1;guest f 1 1 1;";
+        fine(guests, 6);
+        fault(guests + "guest", 2, 84);
+        fault(guests + "guest a 1 1 1;", 2, 84);
+        String fruits = "fruit a 1 1;fruit b 1 1;fruit c 1 1;fruit d 1 1;fruit e 1 1;fruit f 1 1;fruit g 1 1;fruit h 1 1;";
+        fine(fruits, 8);
+        fault(fruits + "fruit !", 2, 96);
+        fine("guest a 1 1 1;" + times("bite a 1;", 8), 9);
+        fault("guest a 1 1 1;" + times("bite a 1;", 8) + "bite b 1;", 2, 86);
+        fine("law dare " + times("(", 8) + "1" + times(")", 8) + "+" + times("(", 8) + "1" + times(")", 8) + ";", 1);
+        fault("law dare " + times("(", 9), 2, 17);
+        fault("law dare (1)+" + times("(", 9), 2, 21);
+        fault("law dare " + times("(", 8) + "1(", 1, 18);
+    }
+
+    private static void knots() {
+        String sixtyFour = "law dare " + times("1+", 20) + "1;law shock " + times("not ", 22) + "step;";
+        fine(sixtyFour, 2);
+        WaxBowl x = CHECK.told(sixtyFour);
+        CHECK.due("knots", x.count(3), 64);
+        fault(sixtyFour + "law praise 1;", 2, sixtyFour.length() + 11);
+        fault(sixtyFour + "law praise (wit", 2, sixtyFour.length() + 12);
+        fault(sixtyFour + "law praise not", 2, sixtyFour.length() + 11);
+        fault("law dare " + times("not ", 63) + "1 + 1;", 2, 9 + 252 + 2);
+        fault("law dare " + times("not ", 63) + "1 and 1;", 2, 9 + 252 + 2);
+        fault("law dare " + times("not ", 63) + "1 not;", 1, 9 + 252 + 2);
+        fault("law dare 1 = " + times("(", 8) + times("not ", 60) + "1 + 1;", 2, 13 + 8 + 240 + 4);
+        fault("law dare " + times("1+", 31) + "1 = 1 = 1;", 2, 9 + 62 + 4);
+        fault("law dare " + times("1+", 31) + "1 = = 1;", 1, 9 + 62 + 4);
+        CHECK.due("new text, fewer knots", Check.tell(x, "law dare 1 <= (2);"), 1);
+        CHECK.due("knots of it", x.count(3), 3);
+    }
+
+    private static void toldAlreadyOrNot() {
+        fault("guest a 1 1 1;guest a 100 1 1;", 3, 20);
+        fault("fruit a 1 1;fruit a 1 1;", 3, 18);
+        fine("fruit a 1 1;guest a 1 1 1;fruit aa 1 1;guest aa 1 1 1;", 4);
+        fault("near 1;near 9;", 3, 7);
+        fault("cold 1;cold", 3, 7);
+        fault("seed 1;near 1;seed 1;", 3, 14);
+        fault("law dare 1;law dare x", 3, 15);
+        fault("law shock 1;law dare 1;law shock 1;", 3, 27);
+        fine("law shock 1;law dare 1;law praise 1;", 3);
+        fault("bite a 1;guest a 1 1 1;", 4, 5);
+        fault("guest a 1 1 1;bite b 100;", 4, 19);
+        fault("fruit a 1 1;bite a 1;", 4, 17);
+        fault("guest a 1 1 1;bite law 1;", 1, 19);
+    }
+
+    private static void names() {
+        WaxBowl x = CHECK.told("guest anna 1 1 1;guest zyxwvu 1 1 1;fruit pear 1 1;fruit anna 2 1;guest an 1 1 1;");
+        CHECK.due("anna", x.named(0, Check.letters("anna")), 0);
+        CHECK.due("zyxwvu", x.named(0, Check.letters("zyxwvu")), 1);
+        CHECK.due("an", x.named(0, Check.letters("an")), 2);
+        CHECK.due("a is highest of six", x.named(0, 1 << 25 | 14 << 20), 2);
+        CHECK.due("fruit anna", x.named(1, Check.letters("anna")), 1);
+        CHECK.due("fruit pear", x.named(1, Check.letters("pear")), 0);
+        CHECK.due("guest pear", x.named(0, Check.letters("pear")), WaxBowl.NONE);
+        CHECK.due("fruit an", x.named(1, Check.letters("an")), WaxBowl.NONE);
+        CHECK.due("nobody", x.named(0, 0), WaxBowl.NONE);
+        CHECK.due("below 0", x.named(0, -1), WaxBowl.NONE);
+        CHECK.due("letters at the lower end", x.named(0, 1 << 5 | 14), WaxBowl.NONE);
+        CHECK.due("no such what", x.named(2, Check.letters("anna")), WaxBowl.NONE);
+        CHECK.due("no such what", x.named(-1, Check.letters("anna")), WaxBowl.NONE);
+        Check.tell(x, "guest b 1 1 1;");
+        CHECK.due("names of the latest text alone", x.named(0, Check.letters("zyxwvu")), WaxBowl.NONE);
+    }
+
+    public static void main(String[] args) {
+        newObject();
+        feeding();
+        textKeepsOrBegins();
+        textBeginsAnew();
+        wrongTokens();
+        wrongExpressions();
+        tooMuch();
+        knots();
+        toldAlreadyOrNot();
+        names();
+        CHECK.end();
+    }
+}
