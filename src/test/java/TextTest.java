@@ -176,7 +176,7 @@ public final class TextTest {
         fault("law dare x;", 1, 9);
         fault("law dare cold;", 1, 9);
         fault("law dare manners;", 1, 9);
-        fine("law dare manner+hunger-wit*sweet/marks<there=(step);".replace("=", "-"), 1);
+        fine("law dare manner+hunger-wit*sweet/marks<there-(step);", 1);
     }
 
     private static void tooMuch() {
