@@ -127,6 +127,9 @@ public final class AheadTest {
         CHECK.due("39 faint, too", alike.table(6), 3);
         alike.go(40);
         CHECK.due("more than now", alike.table(6), 0);
+        String six = "guest a 9 98 0;guest b 9 98 0;guest c 9 98 0;guest d 9 98 0;guest e 9 98 0;guest f 9 98 0;";
+        CHECK.due("all faint", CHECK.told(six).table(6), 6);
+        CHECK.due("all faint, by any seats", CHECK.told(six).table(5), 5);
         CHECK.due("no guests", new WaxBowl().table(0), -2);
         CHECK.due("no guests", new WaxBowl().table(5), -2);
         CHECK.due("no guests", new WaxBowl().table(6), 0);

@@ -18,6 +18,9 @@ public final class ModelTest {
         "rudest", "grace n", "untouched", "see nghb", "strike e", "known e", "sweets f", "chance sng", "tried wgn", "undo",
         "keep", "back", "count w", "count w"};
 
+    private static final Map<String, Integer> MOST_WHAT = Map.of("guest", 6, "fruit", 4, "law", 2, "ahead", 4, "table", 6,
+            "tried", 4, "count", 12);
+
     private final Random random;
     private final WaxBowl bowl = new WaxBowl();
     private final PlainModel model = new PlainModel();
@@ -77,11 +80,11 @@ public final class ModelTest {
 
     private Object argument(char kind, String name) {
         switch (kind) {
-            case 'g': return name.equals("tried") && odds(60) ? 0 : pick(-1, odds(85) ? 3 : 6);
-            case 'f': return pick(-1, odds(70) ? 3 : 8);
-            case 'w': return pick(-1, name.equals("count") ? 13 : name.equals("law") ? 3 : 7);
-            case 'n': return odds(70) ? pick(0, 20) : odds(80) ? pick(0, 200) : pick(-1, 202);
-            case 'k': return pick(-1, 7);
+            case 'g': return name.equals("tried") && odds(60) ? 0 : odds(90) ? pick(0, 4) : pick(-1, 6);
+            case 'f': return odds(90) ? pick(0, 2) : pick(-1, 8);
+            case 'w': return odds(95) ? pick(0, MOST_WHAT.getOrDefault(name, 1)) : pick(-1, 14);
+            case 'n': return odds(70) ? pick(1, 20) : odds(80) ? pick(0, 200) : pick(-1, 202);
+            case 'k': return name.equals("rest") && odds(80) ? pick(0, 1) : pick(-1, 7);
             case 's': return odds(10) ? -1 : odds(20) ? Integer.MAX_VALUE : random.nextInt() & Integer.MAX_VALUE;
             case 'h': return odds(90) ? pick(0, 99) : pick(-1, 101);
             case 'b': return random.nextBoolean();
@@ -118,7 +121,8 @@ public final class ModelTest {
         int guests = odds(85) ? pick(2, 6) : pick(0, 7);
         for (int i = 0; i < guests; i++) {
             String name = odds(97) ? String.valueOf((char) ('a' + i)) : "a";
-            lines.add("guest " + name + " " + pick(0, 99) + " " + pick(0, odds(97) ? 98 : 99) + " " + pick(0, 9));
+            int hunger = odds(70) ? pick(0, 70) : pick(0, odds(97) ? 98 : 99);
+            lines.add("guest " + name + " " + pick(0, 99) + " " + hunger + " " + pick(0, 9));
         }
         int fruits = odds(85) ? pick(1, 4) : pick(0, 9);
         for (int i = 0; i < fruits; i++) {

@@ -55,6 +55,8 @@ public final class PeopleTest {
         CHECK.due("one, both praise", CHECK.told("guest a 99 0 9;guest b 99 0 9;").rests(0, 1), 1);
         CHECK.due("both praise", CHECK.told("guest a 99 0 9;guest b 99 0 9;").rest(0, 1, 0), 0);
         CHECK.due("both bite", CHECK.told("guest a 0 98 0;guest b 0 98 0;").rest(0, 1, 0), 11);
+        CHECK.due("manners by 20 at 20", CHECK.told("guest a 20 25 5;guest b 20 25 5;").rests(0, 1), 3);
+        CHECK.due("manners by 20 at 80", CHECK.told("guest a 80 98 1;guest b 80 98 1;").rests(0, 1), 3);
         CHECK.due("alike", x.rests(1, 1), WaxBowl.NONE);
         CHECK.due("below", x.rests(-1, 1), WaxBowl.NONE);
         CHECK.due("beyond", x.rests(1, 6), WaxBowl.NONE);

@@ -92,6 +92,9 @@ public final class StateTest {
         CHECK.due("wax isn't eaten", wax.fruit(0, 2), 0);
         CHECK.due("wax has a mark", wax.fruit(0, 3), 1);
         CHECK.due("wax doesn't feed", wax.guest(0, 1), 61);
+        CHECK.due("wax with a mark isn't untouched", wax.untouched(), 0);
+        CHECK.due("wax with a mark is marked", wax.marked(), 1);
+        CHECK.due("wax isn't eaten", wax.count(7), 0);
         WaxBowl even = CHECK.told("guest a 60 60 2;fruit p 5 0;");
         even.go(1);
         CHECK.due("hunger must be more than manners", even.count(6), 0);
@@ -344,6 +347,9 @@ public final class StateTest {
     }
 
     private static void whoIs() {
+        WaxBowl first = CHECK.told("guest a 20 50 1;guest b 20 50 1;");
+        CHECK.due("the first", first.hungriest(), 0);
+        CHECK.due("the first", first.rudest(), 0);
         WaxBowl x = CHECK.told("guest a 30 20 1;guest b 20 50 1;guest c 20 50 1;guest d 90 98 1;guest e 99 97 0;guest f 5 98 0;");
         CHECK.due("hungriest, the first", x.hungriest(), 3);
         CHECK.due("rudest", x.rudest(), 5);

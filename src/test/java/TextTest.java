@@ -13,6 +13,8 @@ public final class TextTest {
         }
         CHECK.due("new: fault(0)", x.fault(0), 0);
         CHECK.due("new: fault(1)", x.fault(1), WaxBowl.NONE);
+        CHECK.due("new: no image", x.back(), WaxBowl.NONE);
+        CHECK.due("new: no cold", x.warm(1, 0), 1);
         CHECK.due("new: text(1)", x.text(1), -2);
         CHECK.due("new: text(0)", x.text(0), 0);
         CHECK.due("NONE", WaxBowl.NONE, -1);
@@ -96,6 +98,32 @@ public final class TextTest {
         CHECK.due("no law", x.law(0, 0, 0), Long.MIN_VALUE);
         CHECK.due("near is 1 without", x.guest(0, 5), 0b1010);
         CHECK.due("cold is 0 without", x.warm(6, 0), 1);
+    }
+
+    /** A third and a fourth text have nothing of the first ones. */
+    private static void textsBehindOneAnother() {
+        WaxBowl x = CHECK.told("guest a 5 60 1;guest b 5 60 1;fruit p 1 1;bite a 3;cold 100;near 5;seed 9;"
+                + "law praise 7;law dare 1;law shock 2;");
+        CHECK.due("a fault", Check.tell(x, "guest a 5 60 1;fruit p 1 1;bite a 3;near 3;cold 7;seed 8;law dare wit;law praise 3;law"), -1);
+        CHECK.due("the text stays", x.count(3), 3);
+        CHECK.due("its laws stay", x.law(0, 0, 0), 7);
+        CHECK.due("its cold stays", x.warm(1, 0), 0);
+        for (int round = 0; round < 3; round++) {
+            CHECK.due("nothing", x.text(0), 0);
+            for (int what = 0; what <= 12; what++) {
+                CHECK.due("nothing: count(" + what + ")", x.count(what), 0);
+            }
+            CHECK.due("no cold", x.warm(1, 0), 1);
+            CHECK.due("told anew", Check.tell(x, "fruit q 1 1;guest c 99 0 1;guest d 99 0 1;guest e 99 0 1;guest f 99 0 1;"), 5);
+            CHECK.due("near 1", x.guest(0, 5), 0b1010);
+            for (int law = 0; law < 3; law++) {
+                CHECK.due("no law " + law, x.law(law, 0, 0), Long.MIN_VALUE);
+            }
+            CHECK.due("told anew", Check.tell(x, "guest a 99 0 0;cold 50;"), 2);
+            x.go(4);
+            CHECK.due("seed 0 without", x.guest(0, 1), 8);
+            CHECK.due("told anew", Check.tell(x, "guest a 99 0 0;cold 50;seed 321;law dare 1;law praise 2;law shock 3;near 2;"), 7);
+        }
     }
 
     private static void fault(String text, int kind, int place) {
@@ -272,6 +300,7 @@ public final class TextTest {
         feeding();
         textKeepsOrBegins();
         textBeginsAnew();
+        textsBehindOneAnother();
         wrongTokens();
         wrongExpressions();
         tooMuch();
