@@ -951,11 +951,8 @@ public final class WaxBowl {
             }
         }
 
-        /** A law's value by what its names stand for, in their order; ERROR without the law, too. */
+        /** The value of a law that is told, by what its names stand for, in their order. */
         long work(int law, int[] names) {
-            if (!isTold[law]) {
-                return ERROR;
-            }
             int held = 0;
             for (int k = starts[law]; k < ends[law]; k++) {
                 int kind = kinds[k];
@@ -1375,7 +1372,7 @@ public final class WaxBowl {
             }
         }
 
-        /** Reads a token where a value is due: whether one is due still. */
+        /** Reads a token where a value is due: whether one is due still. Signs wait until both their sides are put down. */
         private boolean readTowardsValue() {
             int kind = tokens.kind;
             boolean isName = kind >= MANNER && kind <= STEP;
@@ -1453,8 +1450,7 @@ public final class WaxBowl {
             return waiting > 0 && waiting <= signs.length ? signs[waiting - 1] : OPEN;
         }
 
-        /** Signs wait until what binds tighter behind them is put down.
-         *  Puts down the waiting signs that bind so tightly at least, as far as the latest '('. */
+        /** Puts down the waiting signs that bind so tightly at least, as far as the latest '('. */
         private void putDownFrom(int binding) {
             while (waiting > 0 && bindingOf(lastWaiting()) >= binding) {
                 told.laws.add(law, lastWaiting(), 0);
@@ -1665,7 +1661,11 @@ public final class WaxBowl {
             return bits;
         }
 
+        /** A law's value; ERROR without the law, too. */
         long workOut(int law, Scene scene, int guest, int fruit) {
+            if (!told.laws.has(law)) {
+                return ERROR;
+            }
             names[0] = scene.manners[guest];
             names[1] = scene.hunger[guest];
             names[2] = told.wit[guest];

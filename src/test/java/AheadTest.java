@@ -162,6 +162,8 @@ public final class AheadTest {
         CHECK.due("all", CHECK.told("guest a 99 0 9;guest b 99 0 9;guest c 99 0 0;fruit p 0 0;law dare 1;").calm(), 0b111);
         CHECK.due("two of three, the least bits",
                 CHECK.told("guest a 99 0 9;guest b 99 0 9;guest c 99 0 0;fruit p 0 0;law dare there > 1;").calm(), 0b011);
+        CHECK.due("fewer ones ahead of less bits", CHECK.told("guest a 99 0 0;guest b 99 0 0;guest c 99 0 9;fruit p 0 0;"
+                + "law dare wit > 5 and there > 1;").calm(), 0b100);
         WaxBowl fallen = CHECK.told("guest a 99 98 9;guest b 99 0 9;fruit p 0 0;law dare step > 5;");
         CHECK.due("a faints, but b doesn't", fallen.calm(), 0b10);
         WaxBowl fed = CHECK.told("guest a 50 0 9;guest b 20 10 0;guest c 99 0 9;fruit p 0 0;near 1;");

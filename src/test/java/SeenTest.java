@@ -60,6 +60,9 @@ public final class SeenTest {
         CHECK.due("that isn't known", x.sweets(0), 0b10000);
         CHECK.due("known by all", x.known(-1), true);
         CHECK.due("that is", x.sweets(0), 0b1111110000);
+        CHECK.due("known by 1", x.known(1), true);
+        CHECK.due("it isn't struck then", x.sweets(0), 0b11111);
+        CHECK.due("known by all", x.known(-1), true);
         CHECK.due("also those to come", x.strike(1), 5);
         CHECK.due("nothing is left", x.sweets(0), ALL);
         CHECK.due("a strike of a struck strike", x.strike(3), 6);

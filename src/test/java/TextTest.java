@@ -36,6 +36,11 @@ public final class TextTest {
         CHECK.due("its place", x.fault(1), 0);
         CHECK.due("all five", x.feed(0x6e656172, 0x0a352020, 0x3b636f6c, 0x64202020, 0x3939203b), 20);
         CHECK.due("near and cold", x.text(20), 2);
+        for (int i = 0; i < 35; i++) {
+            x.feed(0x29292929, 0x29292929, 0x29292929, 0x29292929, 0x29292929);
+        }
+        CHECK.due("700 tokens", x.text(700), WaxBowl.NONE);
+        CHECK.due("their fault", x.fault(1), 0);
         CHECK.due("warm of cold 99", x.warm(1, 0), 1);
     }
 

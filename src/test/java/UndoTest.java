@@ -59,6 +59,26 @@ public final class UndoTest {
         CHECK.due("none", x.undo(), WaxBowl.NONE);
     }
 
+    /** Deeds of all kinds, more than are kept, and back as far as it goes. */
+    private static void twentyOfAllKinds() {
+        WaxBowl x = CHECK.told("guest a 99 98 2;guest b 99 98 3;guest c 99 90 1;fruit p 0 0;fruit q 0 0;law praise 0;");
+        x.go(1);
+        int[][] deeds = {{2, 0, 0}, {1, 2, 5}, {0, 0, 1}, {1, 0, 7}, {0, 1, 2}, {1, 2, 9}, {2, 1, 0}, {0, 0, 2}};
+        int[][] states = new int[28][];
+        for (int i = 0; i < 28; i++) {
+            states[i] = answers(x);
+            int[] deed = i < deeds.length ? deeds[i] : new int[] {i % 2, i % 3, i % 2 == 0 ? (i + 1) % 3 : 1 + i % 5};
+            boolean done = deed[0] == 0 ? x.seat(deed[1], deed[2])
+                    : deed[0] == 1 ? x.bread(deed[1], deed[2]) >= 0 : x.wake(deed[1]);
+            CHECK.due("deed " + i, done, true);
+        }
+        for (int i = 27; i >= 8; i--) {
+            CHECK.due("undo " + i, x.undo(), i - 8);
+            same("as ahead of " + i, answers(x), states[i]);
+        }
+        CHECK.due("no more", x.undo(), WaxBowl.NONE);
+    }
+
     private static void images() {
         WaxBowl x = CHECK.told("guest a 5 90 2;guest b 50 50 3;guest c 99 60 1;fruit p 3 1;fruit q 1 0;cold 40;seed 7;");
         CHECK.due("none yet", x.back(), WaxBowl.NONE);
@@ -123,6 +143,7 @@ public final class UndoTest {
         undoing();
         stepsEndIt();
         twentyAtMost();
+        twentyOfAllKinds();
         images();
         CHECK.end();
     }
