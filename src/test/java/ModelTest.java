@@ -168,8 +168,41 @@ public final class ModelTest {
         return odds(20) ? s.substring(0, random.nextInt(s.length() + 1)) : s.toString();
     }
 
+    /** An E of tokens in a row, most of which can stand where they do, up to more knots than may be. */
+    private String anyTokens() {
+        String[] values = {"manner", "hunger", "wit", "sweet", "marks", "there", "step", "1", "0", "9999", "12"};
+        String[] signs = {"+", "-", "*", "/", "<", "<=", "=", "<>", ">=", ">", "and", "or", "and", "or", "and", "or"};
+        StringBuilder s = new StringBuilder("guest a 7 8 9;fruit p 4 1;law ").append(odds(50) ? "dare" : "praise");
+        int length = odds(80) ? pick(1, 30) : pick(60, 75);
+        boolean value = true;
+        int open = 0;
+        for (int i = 0; i < length && s.length() < 620; i++) {
+            s.append(' ');
+            if (odds(1)) {
+                value = !value;
+            }
+            if (value && odds(15)) {
+                s.append("(");
+                open++;
+            } else if (value && odds(10)) {
+                s.append("not");
+            } else if (!value && open > 0 && odds(25)) {
+                s.append(")");
+                open--;
+            } else {
+                s.append(value ? values[random.nextInt(values.length)] : signs[random.nextInt(signs.length)]);
+                value = !value;
+            }
+        }
+        s.append(value ? " wit" : "");
+        for (; open > 0 && odds(97); open--) {
+            s.append(')');
+        }
+        return s.append(odds(97) ? ";" : "").toString();
+    }
+
     private void tellAny() {
-        String text = anyText();
+        String text = odds(30) ? anyTokens() : anyText();
         if (odds(30)) {
             text = spoilt(text);
         }
