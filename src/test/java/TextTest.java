@@ -131,154 +131,139 @@ public final class TextTest {
         }
     }
 
-    private static void fault(String text, int kind, int place) {
-        WaxBowl x = new WaxBowl();
-        CHECK.due("text " + text, Check.tell(x, text), WaxBowl.NONE);
-        CHECK.due("fault of " + text, x.fault(0), kind);
-        CHECK.due("place of " + text, x.fault(1), place);
-        CHECK.due("guests behind " + text, x.count(0), 0);
-    }
-
-    private static void fine(String text, int lines) {
-        WaxBowl x = new WaxBowl();
-        CHECK.due("text " + text, Check.tell(x, text), lines);
-        CHECK.due("fault of " + text, x.fault(0), 0);
-        CHECK.due("place of " + text, x.fault(1), WaxBowl.NONE);
-    }
-
     private static void wrongTokens() {
-        fault("Guest a 1 1 1;", 1, 0);
-        fault("guests a 1 1 1;", 1, 0);
-        fault("guest abcdefg 1 1 1;", 1, 6);
-        fine("guest abcdef 1 1 1;", 1);
+        CHECK.fault("Guest a 1 1 1;", 1, 0);
+        CHECK.fault("guests a 1 1 1;", 1, 0);
+        CHECK.fault("guest abcdefg 1 1 1;", 1, 6);
+        CHECK.fine("guest abcdef 1 1 1;", 1);
         for (String word : "guest fruit bite near cold seed law praise dare shock or and not manner hunger wit sweet marks there step"
                 .split(" ")) {
-            fault("guest " + word + " 1 1 1;", 1, 6);
+            CHECK.fault("guest " + word + " 1 1 1;", 1, 6);
         }
-        fault("guest a 1 1;", 1, 11);
-        fault("guest a 1 1 1", 1, 13);
-        fault("guest a 1 1 1  ", 1, 15);
-        fault("guest a 1 1 1 1;", 1, 14);
-        fault("guest 1 1 1 1;", 1, 6);
-        fault("guest a b 1 1;", 1, 8);
-        fault(";", 1, 0);
-        fault("near 1;;", 1, 7);
-        fault("near 1 near 1;", 1, 7);
-        fault("near\t1;", 1, 4);
-        fine("\n near\n1\n;\n ", 1);
-        fine("near1;guest a1 1 01;cold 0000000000000000050;", 3);
-        fault("a", 1, 0);
-        fault("1;", 1, 0);
-        fault("near 1!;", 1, 6);
-        fault("near (;", 1, 5);
-        fault("bite 1 1;", 1, 5);
-        fault("bite", 1, 4);
-        fault("law bite 1;", 1, 4);
-        fault("law", 1, 3);
-        fault("law dare", 1, 8);
-        fault("law dare 1", 1, 10);
-        fault("fruit p 1;", 1, 9);
+        CHECK.fault("guest a 1 1;", 1, 11);
+        CHECK.fault("guest a 1 1 1", 1, 13);
+        CHECK.fault("guest a 1 1 1  ", 1, 15);
+        CHECK.fault("guest a 1 1 1 1;", 1, 14);
+        CHECK.fault("guest 1 1 1 1;", 1, 6);
+        CHECK.fault("guest a b 1 1;", 1, 8);
+        CHECK.fault(";", 1, 0);
+        CHECK.fault("near 1;;", 1, 7);
+        CHECK.fault("near 1 near 1;", 1, 7);
+        CHECK.fault("near\t1;", 1, 4);
+        CHECK.fine("\n near\n1\n;\n ", 1);
+        CHECK.fine("near1;guest a1 1 01;cold 0000000000000000050;", 3);
+        CHECK.fault("a", 1, 0);
+        CHECK.fault("1;", 1, 0);
+        CHECK.fault("near 1!;", 1, 6);
+        CHECK.fault("near (;", 1, 5);
+        CHECK.fault("bite 1 1;", 1, 5);
+        CHECK.fault("bite", 1, 4);
+        CHECK.fault("law bite 1;", 1, 4);
+        CHECK.fault("law", 1, 3);
+        CHECK.fault("law dare", 1, 8);
+        CHECK.fault("law dare 1", 1, 10);
+        CHECK.fault("fruit p 1;", 1, 9);
     }
 
     private static void wrongExpressions() {
-        fault("law dare 1 < = 2;", 1, 13);
-        fault("law dare 1 => 2;", 1, 12);
-        fault("law dare 1 >< 2;", 1, 12);
-        fault("law dare 1 == 2;", 1, 12);
-        fine("law dare 1 <= 2;law praise 1 >= 2;law shock 1 <> 2;", 3);
-        fine("law dare 1<2;law praise 1>2;law shock 1=2;", 3);
-        fault("law dare 1 < 2 < 3;", 1, 15);
-        fault("law dare 1 = 2 + 3 = 3;", 1, 19);
-        fine("law dare (1 < 2) < 3;", 1);
-        fine("law dare 1 < 2 and 2 < 3 or 3 < 4;", 1);
-        fault("law dare 1 = not 1;", 1, 13);
-        fault("law dare 1 + not 1;", 1, 13);
-        fault("law dare 1 * not 1;", 1, 13);
-        fine("law dare (not 1) + 1;law shock 1 and not not 1 or not (not 1);", 2);
-        fault("law dare 1 not 1;", 1, 11);
-        fault("law dare ();", 1, 10);
-        fault("law dare (1;", 1, 11);
-        fault("law dare (1", 1, 11);
-        fault("law dare 1);", 1, 10);
-        fault("law dare 1 2;", 1, 11);
-        fault("law dare 1 (2);", 1, 11);
-        fault("law dare -1;", 1, 9);
-        fault("law dare + 1;", 1, 9);
-        fault("law dare 1 +;", 1, 12);
-        fault("law dare 1 and or 1;", 1, 15);
-        fault("law dare x;", 1, 9);
-        fault("law dare cold;", 1, 9);
-        fault("law dare manners;", 1, 9);
-        fine("law dare manner+hunger-wit*sweet/marks<there-(step);", 1);
+        CHECK.fault("law dare 1 < = 2;", 1, 13);
+        CHECK.fault("law dare 1 => 2;", 1, 12);
+        CHECK.fault("law dare 1 >< 2;", 1, 12);
+        CHECK.fault("law dare 1 == 2;", 1, 12);
+        CHECK.fine("law dare 1 <= 2;law praise 1 >= 2;law shock 1 <> 2;", 3);
+        CHECK.fine("law dare 1<2;law praise 1>2;law shock 1=2;", 3);
+        CHECK.fault("law dare 1 < 2 < 3;", 1, 15);
+        CHECK.fault("law dare 1 = 2 + 3 = 3;", 1, 19);
+        CHECK.fine("law dare (1 < 2) < 3;", 1);
+        CHECK.fine("law dare 1 < 2 and 2 < 3 or 3 < 4;", 1);
+        CHECK.fault("law dare 1 = not 1;", 1, 13);
+        CHECK.fault("law dare 1 + not 1;", 1, 13);
+        CHECK.fault("law dare 1 * not 1;", 1, 13);
+        CHECK.fine("law dare (not 1) + 1;law shock 1 and not not 1 or not (not 1);", 2);
+        CHECK.fault("law dare 1 not 1;", 1, 11);
+        CHECK.fault("law dare ();", 1, 10);
+        CHECK.fault("law dare (1;", 1, 11);
+        CHECK.fault("law dare (1", 1, 11);
+        CHECK.fault("law dare 1);", 1, 10);
+        CHECK.fault("law dare 1 2;", 1, 11);
+        CHECK.fault("law dare 1 (2);", 1, 11);
+        CHECK.fault("law dare -1;", 1, 9);
+        CHECK.fault("law dare + 1;", 1, 9);
+        CHECK.fault("law dare 1 +;", 1, 12);
+        CHECK.fault("law dare 1 and or 1;", 1, 15);
+        CHECK.fault("law dare x;", 1, 9);
+        CHECK.fault("law dare cold;", 1, 9);
+        CHECK.fault("law dare manners;", 1, 9);
+        CHECK.fine("law dare manner+hunger-wit*sweet/marks<there-(step);", 1);
     }
 
     private static void tooMuch() {
-        fault("guest a 100 1 1;", 2, 8);
-        fault("guest a 99 99 1;", 2, 11);
-        fault("guest a 99 98 10;", 2, 14);
-        fine("guest a 99 98 9;guest b 0 0 0;", 2);
-        fault("fruit a 10 0;", 2, 8);
-        fault("fruit a 9 2;", 2, 10);
-        fine("fruit a 9 1;fruit b 0 0;", 2);
-        fault("guest a 1 1 1;bite a 100;", 2, 21);
-        fine("guest a 1 1 1;bite a 99;bite a 0;", 3);
-        fault("near 0;", 2, 5);
-        fault("near 6;", 2, 5);
-        fine("near 5;cold 100;seed 99999;", 3);
-        fault("cold 101;", 2, 5);
-        fault("seed 100000;", 2, 5);
-        fault("seed 99999999999999999999999999;", 2, 5);
-        fault("seed 4294967296;", 2, 5);
-        fault("law dare 10000;", 2, 9);
-        fault("law dare 1 + 18446744073709551617;", 2, 13);
-        fine("law dare 9999;", 1);
+        CHECK.fault("guest a 100 1 1;", 2, 8);
+        CHECK.fault("guest a 99 99 1;", 2, 11);
+        CHECK.fault("guest a 99 98 10;", 2, 14);
+        CHECK.fine("guest a 99 98 9;guest b 0 0 0;", 2);
+        CHECK.fault("fruit a 10 0;", 2, 8);
+        CHECK.fault("fruit a 9 2;", 2, 10);
+        CHECK.fine("fruit a 9 1;fruit b 0 0;", 2);
+        CHECK.fault("guest a 1 1 1;bite a 100;", 2, 21);
+        CHECK.fine("guest a 1 1 1;bite a 99;bite a 0;", 3);
+        CHECK.fault("near 0;", 2, 5);
+        CHECK.fault("near 6;", 2, 5);
+        CHECK.fine("near 5;cold 100;seed 99999;", 3);
+        CHECK.fault("cold 101;", 2, 5);
+        CHECK.fault("seed 100000;", 2, 5);
+        CHECK.fault("seed 99999999999999999999999999;", 2, 5);
+        CHECK.fault("seed 4294967296;", 2, 5);
+        CHECK.fault("law dare 10000;", 2, 9);
+        CHECK.fault("law dare 1 + 18446744073709551617;", 2, 13);
+        CHECK.fine("law dare 9999;", 1);
         String guests = "guest a 1 1 1;guest b 1 1 1;guest c 1 1 1;guest d 1 1 1;guest e 1 1 1;guest f 1 1 1;";
-        fine(guests, 6);
-        fault(guests + "guest", 2, 84);
-        fault(guests + "guest a 1 1 1;", 2, 84);
+        CHECK.fine(guests, 6);
+        CHECK.fault(guests + "guest", 2, 84);
+        CHECK.fault(guests + "guest a 1 1 1;", 2, 84);
         String fruits = "fruit a 1 1;fruit b 1 1;fruit c 1 1;fruit d 1 1;fruit e 1 1;fruit f 1 1;fruit g 1 1;fruit h 1 1;";
-        fine(fruits, 8);
-        fault(fruits + "fruit !", 2, 96);
-        fine("guest a 1 1 1;" + times("bite a 1;", 8), 9);
-        fault("guest a 1 1 1;" + times("bite a 1;", 8) + "bite b 1;", 2, 86);
-        fine("law dare " + times("(", 8) + "1" + times(")", 8) + "+" + times("(", 8) + "1" + times(")", 8) + ";", 1);
-        fault("law dare " + times("(", 9), 2, 17);
-        fault("law dare (1)+" + times("(", 9), 2, 21);
-        fault("law dare " + times("(", 8) + "1(", 1, 18);
+        CHECK.fine(fruits, 8);
+        CHECK.fault(fruits + "fruit !", 2, 96);
+        CHECK.fine("guest a 1 1 1;" + times("bite a 1;", 8), 9);
+        CHECK.fault("guest a 1 1 1;" + times("bite a 1;", 8) + "bite b 1;", 2, 86);
+        CHECK.fine("law dare " + times("(", 8) + "1" + times(")", 8) + "+" + times("(", 8) + "1" + times(")", 8) + ";", 1);
+        CHECK.fault("law dare " + times("(", 9), 2, 17);
+        CHECK.fault("law dare (1)+" + times("(", 9), 2, 21);
+        CHECK.fault("law dare " + times("(", 8) + "1(", 1, 18);
     }
 
     private static void knots() {
         String sixtyFour = "law dare " + times("1+", 20) + "1;law shock " + times("not ", 22) + "step;";
-        fine(sixtyFour, 2);
+        CHECK.fine(sixtyFour, 2);
         WaxBowl x = CHECK.told(sixtyFour);
         CHECK.due("knots", x.count(3), 64);
-        fault(sixtyFour + "law praise 1;", 2, sixtyFour.length() + 11);
-        fault(sixtyFour + "law praise (wit", 2, sixtyFour.length() + 12);
-        fault(sixtyFour + "law praise not", 2, sixtyFour.length() + 11);
-        fault("law dare " + times("not ", 63) + "1 + 1;", 2, 9 + 252 + 2);
-        fault("law dare " + times("not ", 63) + "1 and 1;", 2, 9 + 252 + 2);
-        fault("law dare " + times("not ", 63) + "1 not;", 1, 9 + 252 + 2);
-        fault("law dare 1 = " + times("(", 8) + times("not ", 60) + "1 + 1;", 2, 13 + 8 + 240 + 4);
-        fault("law dare " + times("1+", 31) + "1 = 1 = 1;", 2, 9 + 62 + 4);
-        fault("law dare " + times("1+", 31) + "1 = = 1;", 1, 9 + 62 + 4);
+        CHECK.fault(sixtyFour + "law praise 1;", 2, sixtyFour.length() + 11);
+        CHECK.fault(sixtyFour + "law praise (wit", 2, sixtyFour.length() + 12);
+        CHECK.fault(sixtyFour + "law praise not", 2, sixtyFour.length() + 11);
+        CHECK.fault("law dare " + times("not ", 63) + "1 + 1;", 2, 9 + 252 + 2);
+        CHECK.fault("law dare " + times("not ", 63) + "1 and 1;", 2, 9 + 252 + 2);
+        CHECK.fault("law dare " + times("not ", 63) + "1 not;", 1, 9 + 252 + 2);
+        CHECK.fault("law dare 1 = " + times("(", 8) + times("not ", 60) + "1 + 1;", 2, 13 + 8 + 240 + 4);
+        CHECK.fault("law dare " + times("1+", 31) + "1 = 1 = 1;", 2, 9 + 62 + 4);
+        CHECK.fault("law dare " + times("1+", 31) + "1 = = 1;", 1, 9 + 62 + 4);
         CHECK.due("new text, fewer knots", Check.tell(x, "law dare 1 <= (2);"), 1);
         CHECK.due("knots of it", x.count(3), 3);
     }
 
     private static void toldAlreadyOrNot() {
-        fault("guest a 1 1 1;guest a 100 1 1;", 3, 20);
-        fault("fruit a 1 1;fruit a 1 1;", 3, 18);
-        fine("fruit a 1 1;guest a 1 1 1;fruit aa 1 1;guest aa 1 1 1;", 4);
-        fault("near 1;near 9;", 3, 7);
-        fault("cold 1;cold", 3, 7);
-        fault("seed 1;near 1;seed 1;", 3, 14);
-        fault("law dare 1;law dare x", 3, 15);
-        fault("law shock 1;law dare 1;law shock 1;", 3, 27);
-        fine("law shock 1;law dare 1;law praise 1;", 3);
-        fault("bite a 1;guest a 1 1 1;", 4, 5);
-        fault("guest a 1 1 1;bite b 100;", 4, 19);
-        fault("fruit a 1 1;bite a 1;", 4, 17);
-        fault("guest a 1 1 1;bite law 1;", 1, 19);
+        CHECK.fault("guest a 1 1 1;guest a 100 1 1;", 3, 20);
+        CHECK.fault("fruit a 1 1;fruit a 1 1;", 3, 18);
+        CHECK.fine("fruit a 1 1;guest a 1 1 1;fruit aa 1 1;guest aa 1 1 1;", 4);
+        CHECK.fault("near 1;near 9;", 3, 7);
+        CHECK.fault("cold 1;cold", 3, 7);
+        CHECK.fault("seed 1;near 1;seed 1;", 3, 14);
+        CHECK.fault("law dare 1;law dare x", 3, 15);
+        CHECK.fault("law shock 1;law dare 1;law shock 1;", 3, 27);
+        CHECK.fine("law shock 1;law dare 1;law praise 1;", 3);
+        CHECK.fault("bite a 1;guest a 1 1 1;", 4, 5);
+        CHECK.fault("guest a 1 1 1;bite b 100;", 4, 19);
+        CHECK.fault("fruit a 1 1;bite a 1;", 4, 17);
+        CHECK.fault("guest a 1 1 1;bite law 1;", 1, 19);
     }
 
     private static void names() {
