@@ -3,9 +3,9 @@ import java.util.List;
 
 /** An object with something of everything in it, and all that it answers then: to see that a call left all as it was. */
 final class Busy {
-    /** Cid and eve faint in step 0, bob bites the real fruit in step 1; draughts come by numbers. */
+    /** Cid and eve faint in step 0, bob bites the real fruit in step 1, who sits on seat 4 wax in step 9; draughts come by numbers. */
     private static final String TEXT = "guest ann 60 30 3;guest bob 20 40 5;guest cid 65 98 2;guest eve 5 98 0;guest dot 90 20 9;"
-            + "fruit fig 4 0;fruit nut 2 1;fruit pea 6 0;bite ann 9;near 1;cold 30;seed 77;"
+            + "fruit fig 4 0;fruit nut 2 1;fruit pea 6 0;bite ann 9;bite dot 9;near 1;cold 30;seed 77;"
             + "law praise wit+sweet-marks;law dare hunger>manner;law shock there+marks;";
     private static final String NEXT_TEXT = "near 3;guest z 1 2 3;";
     private static final int GUESTS = 5;

@@ -332,7 +332,7 @@ public final class CallEdgeTest {
         for (int wrong : new int[] {LEAST, -1, 13, 14, MOST}) {
             CHECK.stays("count(" + wrong + ")", x -> x.count(wrong), NONE);
         }
-        int[] due = {5, 3, 1, 11, 6, 4, 1, 1};
+        int[] due = {5, 3, 2, 11, 6, 4, 1, 1};
         for (int what = 0; what < due.length; what++) {
             int asked = what;
             CHECK.stays("count(" + what + ")", x -> x.count(asked), due[what]);

@@ -441,6 +441,17 @@ public final class StepEdgeTest {
         }
     }
 
+    private static void bindingTighter() {
+        String[] texts = {"1 or 0 and 0", "(1 or 0) and 0", "0 and 0 or 1", "0 and (0 or 1)", "not 1 or 1", "not (1 or 1)", "not 0 and 0",
+            "not (0 and 0)", "not 1 = 2", "(not 1) = 2", "not 0 + 1", "(not 0) + 1", "1 + 1 < 2", "1 + (1 < 2)", "2 + 3 * 4", "(2 + 3) * 4",
+            "9 - 4 - 3", "9 - (4 - 3)", "8 / 4 / 2", "8 / (4 / 2)", "9 - 6 / 3", "2 * 7 / 4", "2 * (7 / 4)", "not not 7"};
+        long[] values = {1, 0, 1, 0, 1, 0, 0, 1, 1, 0, 0, 2, 0, 2, 14, 20, 2, 8, 1, 4, 7, 3, 2, 1};
+        CHECK.due("as many", texts.length, values.length);
+        for (int i = 0; i < values.length; i++) {
+            CHECK.due(texts[i], value(texts[i]), values[i]);
+        }
+    }
+
     private static void namesAtTheirBounds() {
         WaxBowl x = CHECK.told("guest a 0 98 0;guest b 99 0 9;fruit p 0 1;fruit q 9 0;law praise manner*1000+hunger;"
                 + "law dare wit*1000+sweet;law shock there*1000+step*10+marks;");
@@ -491,6 +502,7 @@ public final class StepEdgeTest {
         CHECK.test("/ is cut towards 0; ERROR: / by 0", StepEdgeTest::dividing);
         CHECK.test("comparisons are 1 or 0", StepEdgeTest::comparing);
         CHECK.test("what isn't 0 is as 1, both sides are worked out", StepEdgeTest::notAndOr);
+        CHECK.test("E: or, and, not, comparisons, + -, * /: each binds tighter", StepEdgeTest::bindingTighter);
         CHECK.test("NAMES at their bounds", StepEdgeTest::namesAtTheirBounds);
         CHECK.test("marks: its MARKS (of shock this one, too)", StepEdgeTest::marksOfShock);
         CHECK.end();

@@ -371,6 +371,10 @@ public final class TextEdgeTest {
         CHECK.fault(seven + "((", 2, seven.length() + 1);
         CHECK.fine("law dare (1);law praise " + "(".repeat(8) + "1" + ")".repeat(8) + ";", 2);
         CHECK.fault("law dare " + "(".repeat(8) + "1(", 1, 18);
+        WaxBowl x = new WaxBowl();
+        CHECK.due("a text with a fault", Check.tell(x, "law dare not " + "(".repeat(8) + "1 + !"), NONE);
+        CHECK.due("none is open in the next one", Check.tell(x, "law dare " + "(".repeat(8) + "5" + ")".repeat(8) + ";" + guests(1) + fruits(1)), 3);
+        CHECK.due("and nothing waits", x.law(1, 0, 0), 5);
     }
 
     private static void sixtyFourKnots() {
@@ -586,6 +590,42 @@ public final class TextEdgeTest {
         CHECK.due("untouched", x.untouched(), 3);
     }
 
+    /** Each text is told on the same object: nothing is left of those ahead, however full they were. */
+    private static void textsAheadLeaveNothing() {
+        String full = guests(6) + fruits(8) + "bite a 1;".repeat(8) + "near 5;cold 100;seed 99999;law praise 1;law shock 2;law dare "
+                + "not ".repeat(61) + "1;";
+        WaxBowl x = new WaxBowl();
+        for (int round = 0; round < 3; round++) {
+            for (int again = 0; again < 2; again++) {
+                CHECK.due("full", Check.tell(x, full), 28);
+                CHECK.due("64 knots", x.count(3), 64);
+                CHECK.due("all hear all", x.guest(0, 5), 0b111110);
+            }
+            for (int again = 0; again < 2; again++) {
+                CHECK.due("full, and a fault at the end", Check.tell(x, full + "guest"), NONE);
+                CHECK.due("too much", x.fault(0), 2);
+                CHECK.due("28 lines stay", x.count(2), 8);
+            }
+            for (int again = 0; again < 2; again++) {
+                CHECK.due("no lines", x.text(0), 0);
+                for (int what = 0; what <= 12; what++) {
+                    CHECK.due("count(" + what + ")", x.count(what), 0);
+                }
+                CHECK.due("no cold", x.warm(1, 0), 1);
+                CHECK.due("no name", x.named(0, Check.letters("a")), NONE);
+            }
+            CHECK.due("four", Check.tell(x, guests(4) + "fruit p 0 0;"), 5);
+            CHECK.due("near 1", x.guest(0, 5), 0b1010);
+            for (int law = 0; law < 3; law++) {
+                CHECK.due("no law", x.law(law, 0, 0), Long.MIN_VALUE);
+            }
+            CHECK.due("no bite is told", x.count(2), 0);
+            CHECK.due("with draughts", Check.tell(x, "guest a 99 0 0;cold 50;"), 2);
+            x.go(13);
+            CHECK.due("seed 0", x.guest(0, 1), hungerByNumbers(0));
+        }
+    }
+
     private static void faultOfWhat() {
         WaxBowl x = Busy.bowl();
         CHECK.due("fault(-1)", x.fault(-1), NONE);
@@ -694,6 +734,7 @@ public final class TextEdgeTest {
         CHECK.test("3: -2, and the TAPE stays: not so many, below 0", TextEdgeTest::textOfSoManyBytes);
         CHECK.test("3: a TEXT begins anew, nothing is left", TextEdgeTest::textBeginsAnew);
         CHECK.test("3: a TEXT begins anew, told the same", TextEdgeTest::textAnewOfTheSame);
+        CHECK.test("3: a TEXT begins anew, behind full ones and empty ones", TextEdgeTest::textsAheadLeaveNothing);
         CHECK.test("4: NONE for another what", TextEdgeTest::faultOfWhat);
         CHECK.test("4: of the latest text() that was not -2", TextEdgeTest::faultOfTheLatestText);
         CHECK.test("5: a GUEST (what 0), FRUIT (1), no other", TextEdgeTest::namedOfWhat);
