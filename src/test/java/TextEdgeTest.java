@@ -372,7 +372,9 @@ public final class TextEdgeTest {
         CHECK.fine("law dare (1);law praise " + "(".repeat(8) + "1" + ")".repeat(8) + ";", 2);
         CHECK.fault("law dare " + "(".repeat(8) + "1(", 1, 18);
         WaxBowl x = new WaxBowl();
-        CHECK.due("a text with a fault", Check.tell(x, "law dare not " + "(".repeat(8) + "1 + !"), NONE);
+        for (int i = 0; i < 12; i++) {
+            CHECK.due("a text with a fault", Check.tell(x, "law dare not " + "(".repeat(8) + "1 + !"), NONE);
+        }
         CHECK.due("none is open in the next one", Check.tell(x, "law dare " + "(".repeat(8) + "5" + ")".repeat(8) + ";" + guests(1) + fruits(1)), 3);
         CHECK.due("and nothing waits", x.law(1, 0, 0), 5);
     }
