@@ -20,6 +20,9 @@ public final class FaceTest {
         "int see(int,int,int,boolean)", "int strike(int)", "boolean known(int)", "int sweets(int)", "int chance(int,int,int)",
         "int tried(int,int,int)", "int undo()", "int keep()", "int back()", "int count(int)"};
 
+    private static final String GUEST_THROWS =
+            "[class java.lang.IndexOutOfBoundsException, class java.util.NoSuchElementException]";
+
     private static String told(Method m) {
         List<String> types = new ArrayList<>();
         for (Class<?> type : m.getParameterTypes()) {
@@ -36,6 +39,8 @@ public final class FaceTest {
                 open.add(told(m));
                 names.add(m.getName());
                 CHECK.due(m + " is no static", Modifier.isStatic(m.getModifiers()), false);
+                String thrown = m.getName().equals("guest") ? GUEST_THROWS : "[]";
+                CHECK.due(m + " says what it throws", Arrays.toString(m.getExceptionTypes()).equals(thrown), true);
             }
         }
         List<String> due = new ArrayList<>(Arrays.asList(FACE));
